@@ -872,9 +872,10 @@ public final class MastRobots {
         }
     }
 
-    /** The states ahead of the latest changes, the oldest one first. */
+    /** The states ahead of the latest changes, in a ring: a new one takes the place of the oldest. */
     private static final class History {
         private final Library[] states = new Library[MOST_STATES];
+        private int next;
         int size;
 
         History() {
@@ -884,34 +885,24 @@ public final class MastRobots {
         }
 
         void record(Library library) {
-            if (size >= MOST_STATES) {
-                dropOldest();
-            }
-            Library state = stateAt(size);
+            Library state = stateAt(next);
             if (state != null) {
                 state.copyFrom(library);
-                size++;
+                next = (next + 1) % MOST_STATES;
+                size = Math.min(size + 1, MOST_STATES);
             }
         }
 
         int restore(Library library) {
-            Library state = stateAt(size - 1);
-            if (state == null) {
+            int latest = (next + MOST_STATES - 1) % MOST_STATES;
+            Library state = stateAt(latest);
+            if (size <= 0 || state == null) {
                 return NOT_POSSIBLE;
             }
             library.copyFrom(state);
+            next = latest;
             size--;
             return size;
-        }
-
-        /** Its object goes behind the others, so that it is used again. */
-        private void dropOldest() {
-            Library oldest = states[0];
-            for (int index = 1; index < states.length; index++) {
-                states[index - 1] = states[index];
-            }
-            states[states.length - 1] = oldest;
-            size--;
         }
 
         private Library stateAt(int index) {

@@ -10,6 +10,7 @@ public final class FilesAndServingTest {
         promise12EmptyDrive();
         promise12LongestAgo();
         promise12NearestEmptyShelf();
+        promise12OnlyTheWallBehind();
         promise12WayByWeight();
         promise12Worn();
         Run.end();
@@ -163,6 +164,25 @@ public final class FilesAndServingTest {
         // weigh 1, 1 to the right 1, lift 1, weigh 1, 2 to the left 6, mount 3
         run.due("would(0, 0)", 24).due("would(0, 1)", 4).due("serve(0)", 1).due("count(0)", 16 + 1 + 24);
         run.due("cartridgeOf(0, 3)", 31).due("count(10)", 6).due("count(1)", 2);
+    }
+
+    private static void promise12OnlyTheWallBehind() {
+        // 30 cartridges, two of them in the drives: of all shelves those of the wall 6 alone are empty.
+        Run run = new Run("promise 12: serve, empty shelves at the wall behind alone");
+        run.due("bring(3, 2, 0)", 0).due("hold(0, 0)", -1).due("request(0, 0)", 1).due("serve(0)", 1);
+        run.due("bring(3, 6, 0)", 1).due("hold(1, 1)", -1).due("request(1, 0)", 1).due("serve(0)", 1);
+        int cartridge = 2;
+        for (int wall : new int[] {0, 1, 2, 3, 4, 5, 7}) {
+            for (int shelf = 0; shelf < 4; shelf++) {
+                run.due("bring(1, " + wall + ", " + shelf + ")", cartridge++);
+            }
+        }
+        run.error("bring(1, 6, 0)", Run.LIMIT).due("hold(2, 2)", -1).due("request(2, 0)", 1);
+        // From the wall 6: weigh 1, 4 walls 4, take 2, weigh 1, 4 walls 4, lay 1;
+        // weigh 1, 2 walls 2, lift 1, weigh 1, 2 walls 2, mount 3
+        run.due("would(0, 0)", 23).due("would(0, 1)", 4).due("would(0, 3)", 0).due("serve(0)", 1);
+        run.due("cartridgeOf(0, 3)", 60).due("cartridgeOf(0, 2)", 0).due("shelfOf(0, 0)", Run.NOT_FOUND);
+        run.due("count(11)", 2).due("count(12)", 1);
     }
 
     private static void promise12WayByWeight() {

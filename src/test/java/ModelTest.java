@@ -1,5 +1,6 @@
 import java.lang.reflect.InvocationTargetException;
 import java.lang.reflect.Method;
+import java.lang.reflect.Modifier;
 import java.util.ArrayList;
 import java.util.List;
 import java.util.Random;
@@ -44,12 +45,12 @@ public final class ModelTest {
     private void step(int kind) {
         int dice = random.nextInt(100);
         if (dice < 5) {
-            any(random.nextInt(LOOKS.length));
+            any();
         } else if (dice < 15) {
             look(LOOKS[random.nextInt(LOOKS.length)]);
         } else if (dice < 20 && kind != 1) {
             both("undo");
-        } else if (dice < 28 && kind >= 3) {
+        } else if (dice < 23 && kind >= 3) {
             text();
         } else if (dice < 45) {
             neighbors(kind);
@@ -61,7 +62,7 @@ public final class ModelTest {
     }
 
     /** A call with arguments out of range. */
-    private void any(int choice) {
+    private void any() {
         List<Method> methods = new ArrayList<>();
         for (Method method : PlainLibrary.class.getDeclaredMethods()) {
             if (isCall(method)) {
@@ -79,7 +80,7 @@ public final class ModelTest {
 
     private static boolean isCall(Method method) {
         for (Method call : MastRobots.class.getDeclaredMethods()) {
-            if (java.lang.reflect.Modifier.isPublic(call.getModifiers()) && call.getName().equals(method.getName())) {
+            if (Modifier.isPublic(call.getModifiers()) && call.getName().equals(method.getName())) {
                 return method.getReturnType() == int.class;
             }
         }
@@ -125,6 +126,13 @@ public final class ModelTest {
     }
 
     private void neighbors(int kind) {
+        if (kind == 1) {
+            // Few cartridges, so that they become worn.
+            if (plain.count(5) < 5) {
+                both("bring", 1 + random.nextInt(20), 2 + 4 * random.nextInt(2), random.nextInt(4));
+            }
+            return;
+        }
         if (random.nextInt(3) > 0) {
             int heaviest = random.nextInt(2) == 0 ? 20 : 6;
             both("bring", 1 + random.nextInt(heaviest), random.nextInt(8), random.nextInt(kind == 0 ? 4 : 2));
@@ -136,7 +144,7 @@ public final class ModelTest {
     }
 
     private void files(int kind) {
-        int files = kind % 2 == 0 ? 12 : 60;
+        int files = kind == 5 ? 60 : 12;
         if (random.nextInt(3) == 0) {
             both("hold", random.nextInt(cartridges()), random.nextInt(files));
         } else {
@@ -145,7 +153,7 @@ public final class ModelTest {
     }
 
     private void robot(int kind) {
-        int dice = random.nextInt(kind == 2 ? 7 : 12);
+        int dice = random.nextInt(kind == 2 ? 7 : kind == 1 ? 30 : 12);
         switch (dice) {
             case 0:
             case 1:
@@ -175,19 +183,32 @@ public final class ModelTest {
         }
     }
 
+    private String order() {
+        String[] words = {"lift", "lay", "weigh", "right", "left", "mount", "take", "serve", "lif", "weighs", "", "go"};
+        String word = words[random.nextInt(random.nextInt(20) == 0 ? 12 : 8)];
+        if (word.equals("weigh") && random.nextInt(20) > 0) {
+            return "weigh;";
+        }
+        return word + ' ' + (char) ('0' + random.nextInt(random.nextInt(10) == 0 ? 10 : 4)) + ';';
+    }
+
+    /** One of those that are possible behind a text, if some tries find one. */
+    private String possibleOrder(String behind) {
+        String order = order();
+        for (int tries = 0; tries < 20 && plain.hasFault(behind + order); tries++) {
+            order = order();
+        }
+        return order;
+    }
+
     private void text() {
-        if (random.nextInt(3) == 0) {
+        if (random.nextInt(10) > 0) {
             both("clearText");
         }
-        String[] words = {"lift", "lay", "weigh", "right", "left", "mount", "take", "serve", "lif", "weighs", "", "go"};
         StringBuilder typed = new StringBuilder();
-        for (int orders = random.nextInt(5); orders >= 0; orders--) {
-            String word = words[random.nextInt(random.nextInt(8) == 0 ? 12 : 8)];
-            typed.append(word);
-            if (!word.equals("weigh") || random.nextInt(20) == 0) {
-                typed.append(' ').append((char) ('0' + random.nextInt(random.nextInt(8) == 0 ? 10 : 3)));
-            }
-            typed.append(';');
+        boolean isPossible = random.nextInt(4) > 0;
+        for (int orders = random.nextInt(8); orders >= 0; orders--) {
+            typed.append(isPossible ? possibleOrder(typed.toString()) : order());
         }
         if (random.nextInt(6) == 0) {
             typed.setCharAt(random.nextInt(typed.length()), (char) (32 + random.nextInt(95)));

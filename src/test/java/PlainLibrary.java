@@ -686,6 +686,13 @@ final class PlainLibrary {
         return fault == null ? NOT_FOUND : fault[what];
     }
 
+    /** Whether a text has a fault if it is the whole one. */
+    boolean hasFault(String whole) {
+        PlainLibrary then = copy();
+        then.text.append(whole);
+        return then.run(new int[1]) != null;
+    }
+
     int play() {
         return change(library -> {
             int[] orders = {0};

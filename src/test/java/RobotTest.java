@@ -44,6 +44,9 @@ public final class RobotTest {
         run.error("lay(3)", Run.NOT_POSSIBLE);
         run.due("weigh()", 9).due("turn(-1)", 7).due("lay(2)", 1).due("shelfOf(7, 2)", 1).due("count(2)", 0);
         run.error("lay(0)", Run.NOT_POSSIBLE);
+        Run last = new Run("promise 5: lay, empty pile beside full shelves");
+        last.due("bring(8, 7, 3)", 0).due("bring(8, 7, 2)", 1).error("lay(0)", Run.NOT_POSSIBLE);
+        last.due("weigh()", 0).due("turn(-2)", 6).error("mount(1)", Run.NOT_POSSIBLE).error("lay(3)", Run.NOT_POSSIBLE);
     }
 
     private static void promise6Weigh() {

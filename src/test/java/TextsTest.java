@@ -30,7 +30,7 @@ public final class TextsTest {
         Run run = new Run("promise 24: clearText");
         run.due("clearText()", 0).typed("weigh;").due("clearText()", 6).due("clearText()", 0).due("count(15)", 0);
         run.due("count(14)", 0).due("fault(0)", Run.NOT_FOUND).typed("x").due("fault(0)", 0).due("clearText()", 1);
-        run.due("play()", 0).due("count(0)", 0);
+        run.due("fault(0)", Run.NOT_FOUND).due("fault(1)", Run.NOT_FOUND).due("play()", 0).due("count(0)", 0);
     }
 
     private static void promise25Position() {
@@ -60,6 +60,7 @@ public final class TextsTest {
         run.fault("serve", 0, 1, 5).fault("serve 0", 0, 1, 7).fault("serve_0;", 0, 1, 5).fault("server 0;", 0, 1, 0);
         run.fault("weigh;lift 0", 6, 1, 6).fault("weigh;weigh", 6, 1, 5).fault("weigh; weigh;", 6, 1, 0);
         run.fault("weigh;;", 6, 1, 0).fault("weigh;lift;", 6, 1, 4).fault("turn 1;", 0, 1, 0).fault("wei gh;", 0, 1, 0);
+        run.fault("gift 0;", 0, 1, 0).fault("night 1;", 0, 1, 0).fault("bake 0;", 0, 1, 0).fault("lit 0;", 0, 1, 0);
         run.fault("weightake 0;", 0, 1, 0).fault("takelift 0;", 0, 1, 0);
     }
 

@@ -40,6 +40,13 @@ public final class WhatWouldBeTest {
         run.due("request(0, 9)", 9).due("nextBy(2)", 7).due("nextBy(1)", 0).due("nextBy(0)", 0);
         run.due("weigh()", 0).due("turn(4)", 4).due("nextBy(2)", 0).due("weigh()", 0).due("turn(-1)", 3);
         run.due("nextBy(2)", 2).due("weigh()", 0).due("turn(-2)", 1).due("nextBy(2)", 6);
+        Run far = new Run("promise 17: nextBy, rule 2, by each way");
+        for (int wall = 0; wall < 8; wall++) {
+            far.due("bring(1, " + wall + ", 0)", wall).due("hold(" + wall + ", " + wall + ")", -1);
+        }
+        far.due("request(4, 0)", 1).due("request(3, 0)", 2).due("nextBy(2)", 1).due("request(6, 0)", 3);
+        far.due("nextBy(2)", 2).due("request(2, 0)", 4).due("nextBy(2)", 2).due("undo()", 3).due("undo()", 2);
+        far.due("undo()", 1).due("request(5, 0)", 2).due("nextBy(2)", 1).due("request(2, 0)", 3).due("nextBy(2)", 2);
         Run tie = new Run("promise 17: nextBy, rule 2, as near");
         tie.due("bring(1, 1, 0)", 0).due("bring(1, 7, 0)", 1).due("hold(0, 0)", -1).due("hold(1, 1)", -1);
         tie.due("request(1, 0)", 1).due("request(0, 0)", 2).due("nextBy(2)", 0).due("undo()", 3).due("undo()", 2);
