@@ -72,21 +72,17 @@ public final class CountAndUndoTest {
             Run run = new Run("promise 22: undo, after " + calls[calledOnes - 1]).typed("weigh;left 1;");
             List<List<String>> states = new ArrayList<>();
             for (int i = 0; i < calledOnes; i++) {
-                states.add(run.everything());
+                states.add(run.everything().get(0));
                 run.due(calls[i], want[i]);
             }
             for (int left = Math.min(calledOnes, 4) - 1; left >= 0; left--) {
                 run.due("undo()", left);
-                same(run, run.everything(), states.remove(states.size() - 1));
-            }
-        }
-    }
-
-    private static void same(Run run, List<String> got, List<String> want) {
-        for (int i = 0; i < want.size(); i++) {
-            // The number of states in the history is not a part of the state.
-            if (!want.get(i).startsWith("count(14)") && !want.get(i).equals(got.get(i))) {
-                run.report("undo() restored " + got.get(i) + ", due is " + want.get(i));
+                List<String> got = run.everything().get(0);
+                List<String> before = states.remove(states.size() - 1);
+                // The number of states in the history is not a part of the state.
+                got.removeIf(told -> told.startsWith("count(14)"));
+                before.removeIf(told -> told.startsWith("count(14)"));
+                run.differences("undo() restored ", got, before);
             }
         }
     }

@@ -40,7 +40,7 @@ public final class TextsTest {
         run.fault("weigh;lift 0;lift 4;x", 6, 3, Run.NOT_FOUND).fault("weigh;lift 4;lift 0;", 6, 2, Run.NOT_FOUND);
         run.fault("weigh;right 1;right 1;", 14, 3, Run.NOT_FOUND);
         run.fault("weigh;weigh;weigh;weigh;weigh;weigh;weigh;weigh;weigh;weig;;", 54, 1, 0);
-        run.noFault("weigh;weigh;weigh;weigh;weigh;weigh;weigh;weigh;weigh;weigh;").due("play()", 10);
+        run.noFault("weigh;weigh;weigh;weigh;weigh;weigh;weigh;weigh;weigh;weigh;");
     }
 
     private static void promise25Cause() {
@@ -69,11 +69,12 @@ public final class TextsTest {
         for (String bad : new String[] {"lift 4;", "lift 9;", "lay 4;", "lay 9;", "right 0;", "right 5;", "right 9;",
             "left 0;", "left 5;", "left 9;", "mount 2;", "mount 9;", "take 2;", "take 9;", "serve 4;", "serve 9;"}) {
             run.fault(bad, 0, 2, Run.NOT_FOUND).fault("weigh;" + bad + "x", 6, 2, Run.NOT_FOUND);
-            run.error("play()", Run.NOT_POSSIBLE);
+            run.again(bad).typed(bad).error("play()", Run.NOT_POSSIBLE);
         }
         for (String good : new String[] {"lift 0;", "lift 3;", "lay 0;", "lay 3;", "right 1;", "right 4;", "left 1;",
             "left 4;", "mount 0;", "mount 1;", "take 0;", "take 1;", "serve 0;", "serve 1;", "serve 2;", "serve 3;"}) {
-            run.fault(good, 0, 3, Run.NOT_FOUND).error("play()", Run.NOT_POSSIBLE);
+            run.fault(good, 0, 3, Run.NOT_FOUND);
+            run.again(good).typed(good).error("play()", Run.NOT_POSSIBLE);
         }
     }
 
