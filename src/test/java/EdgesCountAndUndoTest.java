@@ -35,16 +35,20 @@ public final class EdgesCountAndUndoTest {
     }
 
     private static void countWhat() {
-        Run run = new Run("promise 21: what: 0 to 15").range("count(#)", 0, 15).error("count(0)", 0).error("count(15)", 0);
+        Run run = new Run("promise 21: what: 0 to 15").range("count(#)", 0, 15).error("count(0)", 0);
+        run.error("count(15)", 0);
         run.due("bring(3, 0, 0)", 0).due("weigh()", 0).typed("x").range("count(#)", 0, 15).due("count(0)", 1);
         run.due("count(15)", 1);
     }
 
     private static void countTicks() {
         Run run = new Run("promise 21: 0: the ticks so far").due("bring(10, 2, 0)", 0).due("hold(0, 1)", -1);
-        run.due("request(1, 1)", 1).due("send(0, -1, -1)", 1).due("send(0, 2, 0)", 0).due("play()", 0).due("count(0)", 0);
-        run.due("weigh()", 0).due("count(0)", 1).due("turn(2)", 2).due("count(0)", 3).due("lift(0)", 0).due("count(0)", 4);
-        run.due("mount(0)", 1).due("count(0)", 7).due("take(0)", 0).due("count(0)", 9).due("lay(3)", 0).due("count(0)", 10);
+        run.due("request(1, 1)", 1).due("send(0, -1, -1)", 1).due("send(0, 2, 0)", 0).due("play()", 0);
+        run.due("count(0)", 0);
+        run.due("weigh()", 0).due("count(0)", 1).due("turn(2)", 2).due("count(0)", 3).due("lift(0)", 0);
+        run.due("count(0)", 4);
+        run.due("mount(0)", 1).due("count(0)", 7).due("take(0)", 0).due("count(0)", 9).due("lay(3)", 0);
+        run.due("count(0)", 10);
         run.due("request(1, 1)", 1).due("count(0)", 10).due("serve(0)", 1).due("count(0)", 14).due("undo()", 3);
         run.due("count(0)", 10);
     }
@@ -61,7 +65,8 @@ public final class EdgesCountAndUndoTest {
         Run run = new Run("promise 21: 2: cartridges on the pallet; 3: the weight of the pile").due("bring(20, 0, 0)", 0);
         run.due("bring(20, 0, 1)", 1).due("bring(20, 0, 2)", 2).due("count(2)", 0).due("count(3)", 0);
         for (int cartridge = 0; cartridge < 3; cartridge++) {
-            run.due("lift(" + cartridge + ")", cartridge).due("count(2)", cartridge + 1).due("count(3)", 20 * cartridge + 20);
+            run.due("lift(" + cartridge + ")", cartridge).due("count(2)", cartridge + 1);
+            run.due("count(3)", 20 * cartridge + 20);
         }
         for (int cartridge = 2; cartridge >= 0; cartridge--) {
             run.due("lay(" + cartridge + ")", cartridge).due("count(2)", cartridge).due("count(3)", 20 * cartridge);
@@ -69,8 +74,10 @@ public final class EdgesCountAndUndoTest {
     }
 
     private static void countWeighed() {
-        Run run = new Run("promise 21: 4: 1 if the pallet is weighed, otherwise 0").due("count(4)", 0).due("weigh()", 0);
-        run.due("count(4)", 1).due("turn(1)", 1).due("count(4)", 0).due("undo()", 1).due("count(4)", 1).due("undo()", 0);
+        Run run = new Run("promise 21: 4: 1 if the pallet is weighed, otherwise 0").due("count(4)", 0);
+        run.due("weigh()", 0);
+        run.due("count(4)", 1).due("turn(1)", 1).due("count(4)", 0).due("undo()", 1).due("count(4)", 1);
+        run.due("undo()", 0);
         run.due("count(4)", 0);
     }
 
@@ -85,7 +92,8 @@ public final class EdgesCountAndUndoTest {
 
     private static void countWithNeighbors() {
         Run run = new Run("promise 21: 6: those with neighbors").due("bring(3, 0, 0)", 0).due("bring(3, 0, 1)", 1);
-        run.due("count(6)", 0).due("send(1, -1, -1)", 1).due("count(6)", 1).due("send(0, -1, -1)", 2).due("count(6)", 2);
+        run.due("count(6)", 0).due("send(1, -1, -1)", 1).due("count(6)", 1).due("send(0, -1, -1)", 2);
+        run.due("count(6)", 2);
         run.due("bring(3, 0, 0)", 2).due("count(6)", 2).due("send(1, 5, 0)", 1).due("count(6)", 1).due("lift(0)", 2);
         run.due("count(6)", 1);
     }
@@ -114,9 +122,11 @@ public final class EdgesCountAndUndoTest {
 
     private static void countServed() {
         Run run = new Run("promise 21: 9: requests served so far").due("bring(3, 2, 0)", 0).due("bring(3, 6, 0)", 1);
-        run.due("hold(0, 0)", -1).due("hold(1, 1)", -1).due("request(0, 0)", 1).due("request(0, 0)", 2).due("count(9)", 0);
+        run.due("hold(0, 0)", -1).due("hold(1, 1)", -1).due("request(0, 0)", 1).due("request(0, 0)", 2);
+        run.due("count(9)", 0);
         run.due("request(1, 0)", 3).due("serve(0)", 2).due("count(9)", 2).due("serve(0)", 1).due("count(9)", 3);
-        run.due("request(1, 0)", 1).due("take(1)", 1).due("mount(1)", 1).due("count(9)", 4).due("undo()", 3).due("count(9)", 3);
+        run.due("request(1, 0)", 1).due("take(1)", 1).due("mount(1)", 1).due("count(9)", 4).due("undo()", 3);
+        run.due("count(9)", 3);
     }
 
     private static void countTurns() {
@@ -127,8 +137,10 @@ public final class EdgesCountAndUndoTest {
             run.due("turn(" + walls[turns] + ")", new int[] {1, 0, 4, 0, 2, 7}[turns]).due("count(10)", turns + 1);
         }
         run.due("turn(1)", Run.NOT_POSSIBLE).due("turn(0)", Run.INVALID).due("count(10)", 6);
-        Run served = new Run("promise 21: 10: the turns of serving too").due("bring(20, 6, 0)", 0).due("hold(0, 0)", -1);
-        served.due("bring(1, 6, 1)", 1).due("hold(1, 1)", -1).due("request(1, 0)", 1).due("serve(0)", 1).due("count(10)", 1);
+        Run served = new Run("promise 21: 10: the turns of serving too").due("bring(20, 6, 0)", 0);
+        served.due("hold(0, 0)", -1);
+        served.due("bring(1, 6, 1)", 1).due("hold(1, 1)", -1).due("request(1, 0)", 1).due("serve(0)", 1);
+        served.due("count(10)", 1);
         served.due("request(0, 0)", 1).due("serve(0)", 1).due("count(10)", 3).due("wayTo(6)", 5).due("count(10)", 3);
     }
 
@@ -137,7 +149,8 @@ public final class EdgesCountAndUndoTest {
         run.error("count(11)", Run.NOT_FOUND).error("count(12)", Run.NOT_FOUND).due("bring(3, 2, 0)", 0);
         run.due("bring(3, 2, 1)", 1).due("weigh()", 0).due("turn(2)", 2).due("lift(1)", 1).due("lift(0)", 0);
         run.due("mount(0)", 0).due("count(11)", 0).due("count(12)", Run.NOT_FOUND).due("weigh()", 3).due("turn(4)", 6);
-        run.due("mount(1)", 0).due("count(11)", 0).due("count(12)", 1).due("take(1)", 1).due("count(12)", Run.NOT_FOUND);
+        run.due("mount(1)", 0).due("count(11)", 0).due("count(12)", 1).due("take(1)", 1);
+        run.due("count(12)", Run.NOT_FOUND);
         run.due("count(11)", 0).due("weigh()", 3).due("turn(4)", 2).due("take(0)", 0).due("count(11)", Run.NOT_FOUND);
     }
 
@@ -149,7 +162,8 @@ public final class EdgesCountAndUndoTest {
             }
             run.due("count(13)", file).due("hold(" + file / 4 + ", " + file + ")", -1);
         }
-        run.due("count(13)", 60).due("hold(0, 0)", 0).due("count(13)", 60).due("send(0, -1, -1)", 1).due("count(13)", 60);
+        run.due("count(13)", 60).due("hold(0, 0)", 0).due("count(13)", 60).due("send(0, -1, -1)", 1);
+        run.due("count(13)", 60);
         run.due("bring(3, 7, 3)", 15).due("hold(15, 0)", 0).due("count(13)", 60).due("undo()", 3).due("count(13)", 60);
     }
 
@@ -174,12 +188,14 @@ public final class EdgesCountAndUndoTest {
 
     private static void countErrorsInOrder() {
         Run run = new Run("promise 21: INVALID_ARGUMENT rather than NOT_FOUND").error("count(-1)", Run.INVALID);
-        run.error("count(16)", Run.INVALID).error("count(2147483647)", Run.INVALID).error("count(-2147483648)", Run.INVALID);
+        run.error("count(16)", Run.INVALID).error("count(2147483647)", Run.INVALID);
+        run.error("count(-2147483648)", Run.INVALID);
     }
 
     private static void undoEmpty() {
         Run run = new Run("promise 22: NOT_POSSIBLE if it is empty").error("undo()", Run.NOT_POSSIBLE);
-        run.due("bring(0, 0, 0)", Run.INVALID).error("undo()", Run.NOT_POSSIBLE).typed("x").error("undo()", Run.NOT_POSSIBLE);
+        run.due("bring(0, 0, 0)", Run.INVALID).error("undo()", Run.NOT_POSSIBLE).typed("x");
+        run.error("undo()", Run.NOT_POSSIBLE);
         run.due("weigh()", 0).due("undo()", 0).error("undo()", Run.NOT_POSSIBLE).due("count(0)", 0);
     }
 
@@ -190,7 +206,8 @@ public final class EdgesCountAndUndoTest {
     }
 
     private static void undoFourStates() {
-        Run run = new Run("a history of at most 4 states is kept, 4").due("weigh()", 0).due("weigh()", 0).due("weigh()", 0);
+        Run run = new Run("a history of at most 4 states is kept, 4").due("weigh()", 0).due("weigh()", 0);
+        run.due("weigh()", 0);
         run.due("weigh()", 0).due("count(14)", 4);
         for (int left = 3; left >= 0; left--) {
             run.due("undo()", left).due("count(0)", left);
@@ -253,12 +270,14 @@ public final class EdgesCountAndUndoTest {
     private static void undoRemovesTheState() {
         Run run = new Run("promise 22: the latest state, which is removed from it").due("bring(3, 0, 0)", 0);
         run.due("bring(3, 0, 1)", 1).due("bring(3, 0, 2)", 2).due("undo()", 2).due("count(5)", 2).due("undo()", 1);
-        run.due("count(5)", 1).due("bring(9, 7, 3)", 1).due("undo()", 1).due("count(5)", 1).due("undo()", 0).due("count(5)", 0);
+        run.due("count(5)", 1).due("bring(9, 7, 3)", 1).due("undo()", 1).due("count(5)", 1).due("undo()", 0);
+        run.due("count(5)", 0);
     }
 
     private static void undoIsNoChange() {
         Run run = new Run("promise 22: undo itself is no change").due("weigh()", 0).due("weigh()", 0).due("undo()", 1);
-        run.due("count(14)", 1).due("undo()", 0).due("count(14)", 0).due("count(0)", 0).error("undo()", Run.NOT_POSSIBLE);
+        run.due("count(14)", 1).due("undo()", 0).due("count(14)", 0).due("count(0)", 0);
+        run.error("undo()", Run.NOT_POSSIBLE);
     }
 
     /** Each call that is a change, on the same state; it is one change, and all of it goes back. */
@@ -319,13 +338,15 @@ public final class EdgesCountAndUndoTest {
         run.due("hold(0, 5)", -1).due("request(5, 5)", 1).due("weigh()", 0).due("weigh()", 0).typed("weigh;");
         run.error("cartridgeOf(0, 3)", 10).error("shelfOf(1, 0)", 0).error("holder(5)", 0).error("requestOf(0, 0)", 5);
         run.error("nextBy(0)", 0).error("would(0, 0)", 8).error("wayTo(1)", 2).error("wholeBatch(0, 0)", 8);
-        run.error("count(5)", 1).error("fault(0)", Run.NOT_FOUND).due("count(14)", 4).due("clearText()", 6).due("type(32)", 1);
+        run.error("count(5)", 1).error("fault(0)", Run.NOT_FOUND).due("count(14)", 4).due("clearText()", 6);
+        run.due("type(32)", 1);
         run.due("count(14)", 4).due("undo()", 3).due("count(0)", 1);
     }
 
     private static void undoEverythingButTheText() {
         Run run = new Run("everything before it but the text").due("weigh()", 0).typed("weigh;").due("play()", 1);
-        run.due("undo()", 1).due("count(15)", 6).due("play()", 1).due("clearText()", 6).due("undo()", 1).due("count(15)", 0);
+        run.due("undo()", 1).due("count(15)", 6).due("play()", 1).due("clearText()", 6).due("undo()", 1);
+        run.due("count(15)", 0);
         run.typed("lift 9").due("undo()", 0).due("count(15)", 6).due("fault(2)", 6).due("clearText()", 6);
     }
 }

@@ -52,7 +52,8 @@ public final class EdgesFilesTest {
     private static void holdFile() {
         Run run = new Run("promise 10: file: 0 to 59").due("bring(3, 0, 0)", 0).range("hold(0, #)", 0, 59);
         run.due("hold(0, 0)", -1).due("hold(0, 59)", -1).due("hold(0, 1)", -1).due("hold(0, 58)", -1);
-        run.due("holder(0)", 0).due("holder(59)", 0).due("holder(1)", 0).due("holder(58)", 0).range("hold(0, #)", 0, 59);
+        run.due("holder(0)", 0).due("holder(59)", 0).due("holder(1)", 0).due("holder(58)", 0);
+        run.range("hold(0, #)", 0, 59);
     }
 
     private static Run fourHeld(String name) {
@@ -83,13 +84,15 @@ public final class EdgesFilesTest {
         Run run = new Run("promise 10: returns the cartridge that held it, this one too, or -1");
         run.due("bring(3, 0, 0)", 0).due("bring(3, 0, 1)", 1).due("hold(0, 5)", -1).due("count(14)", 3);
         run.due("hold(0, 5)", 0).due("count(14)", 4).due("hold(1, 5)", 0).due("hold(1, 5)", 1).due("hold(0, 5)", 1);
-        run.due("undo()", 3).due("holder(5)", 1).due("undo()", 2).due("holder(5)", 1).due("undo()", 1).due("holder(5)", 0);
+        run.due("undo()", 3).due("holder(5)", 1).due("undo()", 2).due("holder(5)", 1).due("undo()", 1);
+        run.due("holder(5)", 0);
         run.due("undo()", 0).due("holder(5)", 0);
     }
 
     private static void holdWithANeighbor() {
         Run run = fourHeld("promise 10: NOT_POSSIBLE if the cartridge is with a neighbor").due("send(1, -1, -1)", 1);
-        run.error("hold(1, 0)", Run.NOT_POSSIBLE).error("hold(1, 20)", Run.NOT_POSSIBLE).error("hold(1, 10)", Run.NOT_POSSIBLE);
+        run.error("hold(1, 0)", Run.NOT_POSSIBLE).error("hold(1, 20)", Run.NOT_POSSIBLE);
+        run.error("hold(1, 10)", Run.NOT_POSSIBLE);
         run.due("hold(1, 59)", Run.NOT_POSSIBLE).due("send(1, 3, 3)", 0).due("hold(1, 10)", 0);
         Run from = fourHeld("promise 10: from a cartridge that is with a neighbor").due("send(0, -1, -1)", 1);
         from.due("hold(1, 10)", 0).due("holder(10)", 1).due("cartridgeOf(0, 4)", 3);
@@ -152,7 +155,8 @@ public final class EdgesFilesTest {
         for (int waiting = 1; waiting <= 12; waiting++) {
             run.due("request(6, 1)", waiting);
         }
-        run.error("request(-1, 0)", Run.INVALID).error("request(60, 0)", Run.INVALID).error("request(0, -1)", Run.INVALID);
+        run.error("request(-1, 0)", Run.INVALID).error("request(60, 0)", Run.INVALID);
+        run.error("request(0, -1)", Run.INVALID);
         run.error("request(0, 10)", Run.INVALID).error("request(0, 0)", Run.LIMIT);
     }
 
@@ -200,9 +204,12 @@ public final class EdgesFilesTest {
 
     private static void serveCartridgeElsewhere() {
         Run run = three(2, 1, 3, "promise 12: of those whose file is held by a cartridge on a shelf");
-        run.due("request(2, 0)", 1).due("send(2, -1, -1)", 1).error("serve(0)", Run.NOT_POSSIBLE).due("send(2, 2, 1)", 0);
-        run.due("weigh()", 0).due("turn(2)", 2).due("lift(1)", 2).error("serve(1)", Run.NOT_POSSIBLE).due("mount(0)", 1);
-        run.due("request(2, 0)", 1).error("serve(2)", Run.NOT_POSSIBLE).due("take(0)", 2).error("serve(3)", Run.NOT_POSSIBLE);
+        run.due("request(2, 0)", 1).due("send(2, -1, -1)", 1).error("serve(0)", Run.NOT_POSSIBLE);
+        run.due("send(2, 2, 1)", 0);
+        run.due("weigh()", 0).due("turn(2)", 2).due("lift(1)", 2).error("serve(1)", Run.NOT_POSSIBLE);
+        run.due("mount(0)", 1);
+        run.due("request(2, 0)", 1).error("serve(2)", Run.NOT_POSSIBLE).due("take(0)", 2);
+        run.error("serve(3)", Run.NOT_POSSIBLE);
         run.due("lay(1)", 2).due("serve(3)", 1);
     }
 
@@ -229,7 +236,8 @@ public final class EdgesFilesTest {
         for (int wall = 0; wall < 8; wall++) {
             Run run = new Run("promise 12: of both the one whose wall is nearer, of both as near drive 0: wall " + wall);
             run.due("bring(3, " + wall + ", 3)", 0).due("hold(0, 9)", -1).due("request(9, 9)", 1);
-            run.due("would(0, 3)", drives[wall]).due("serve(0)", 1).told("cartridgeOf(0, ", 3, 1, 2, drives[wall], 1, 0, 1);
+            run.due("would(0, 3)", drives[wall]).due("serve(0)", 1);
+            run.told("cartridgeOf(0, ", 3, 1, 2, drives[wall], 1, 0, 1);
         }
     }
 
@@ -241,11 +249,16 @@ public final class EdgesFilesTest {
     }
 
     private static void serveTheOneThatIsEmpty() {
-        Run run = three(2, 1, 3, "promise 12: an empty one, drive 1 alone is").due("request(0, 0)", 1).due("serve(0)", 1);
+        Run run = three(2, 1, 3, "promise 12: an empty one, drive 1 alone is").due("request(0, 0)", 1);
+        run.due("serve(0)", 1);
         run.due("request(2, 0)", 1).due("would(0, 3)", 1).due("serve(0)", 1).due("count(12)", 2).due("count(11)", 0);
         Run other = three(6, 1, 3, "promise 12: an empty one, drive 0 alone is").due("request(1, 0)", 1);
         other.due("serve(0)", 1).due("count(12)", 1).due("request(2, 0)", 1).due("would(0, 3)", 0).due("serve(0)", 1);
         other.due("count(11)", 2).due("count(12)", 1);
+        // Drive 0 was mounted last, but is empty again.
+        Run last = three(6, 1, 3, "promise 12: an empty one, though it was mounted last").due("request(1, 0)", 1);
+        last.due("serve(0)", 1).due("request(0, 0)", 1).due("serve(0)", 1).due("take(0)", 0).due("lay(0)", 0);
+        last.due("request(2, 0)", 1).due("would(0, 3)", 0).due("serve(0)", 1).due("count(11)", 2).due("count(12)", 1);
     }
 
     private static void serveMountedLongestAgo() {
@@ -257,7 +270,8 @@ public final class EdgesFilesTest {
         again.due("would(0, 3)", 0).due("take(0)", 0).due("mount(0)", 0).due("would(0, 3)", 1);
         again.due("weigh()", 0).due("turn(4)", 6).due("take(1)", 1).due("mount(1)", 0).due("would(0, 3)", 0);
         Run first = three(2, 1, 3, "promise 12: drive 1 mounted ahead of drive 0").due("request(1, 0)", 1);
-        first.due("serve(0)", 1).due("request(0, 0)", 1).due("serve(0)", 1).due("request(2, 0)", 1).due("would(0, 3)", 1);
+        first.due("serve(0)", 1).due("request(0, 0)", 1).due("serve(0)", 1).due("request(2, 0)", 1);
+        first.due("would(0, 3)", 1);
         first.due("serve(0)", 1).due("count(12)", 2).due("count(11)", 0);
     }
 
@@ -293,7 +307,8 @@ public final class EdgesFilesTest {
                 run.due("bring(1, 6, 0)", cartridge);
             }
             run.due("hold(2, 2)", -1).due("request(2, 0)", 1).due("serve(0)", 1);
-            run.due("cartridgeOf(0, 2)", 0).due("cartridgeOf(0, 3)", (2 + AROUND[full] + 8) % 8 * 10).due("count(11)", 2);
+            run.due("cartridgeOf(0, 2)", 0).due("cartridgeOf(0, 3)", (2 + AROUND[full] + 8) % 8 * 10);
+            run.due("count(11)", 2);
         }
     }
 
@@ -317,8 +332,10 @@ public final class EdgesFilesTest {
     }
 
     private static void serveWornOneTakenOut() {
-        Run run = worn(5, "promise 12: a worn cartridge is taken out of its drive").due("serve(0)", 1).due("count(11)", 2);
-        run.due("count(7)", 1).due("request(1, 0)", 1).due("serve(0)", 1).due("request(0, 0)", 1).due("request(2, 0)", 2);
+        Run run = worn(5, "promise 12: a worn cartridge is taken out of its drive").due("serve(0)", 1);
+        run.due("count(11)", 2);
+        run.due("count(7)", 1).due("request(1, 0)", 1).due("serve(0)", 1).due("request(0, 0)", 1);
+        run.due("request(2, 0)", 2);
         run.due("serve(0)", 1).due("count(11)", 0).told("cartridgeOf(2, ", 3, 6, 0, 21, 1, 1, 1).due("count(8)", 1);
         run.error("serve(0)", Run.NOT_POSSIBLE);
     }
@@ -350,7 +367,8 @@ public final class EdgesFilesTest {
         }
         // weigh 1, 4 walls 4, take 2; weigh 1, 2 walls 6, lay 1 at the wall 0;
         // weigh 1, 2 walls 2, lift 1; weigh 1, 4 walls 8, mount 3
-        run.due("would(0, 0)", 31).due("would(0, 1)", 4).due("serve(0)", 1).due("cartridgeOf(0, 3)", 0).due("count(0)", 47);
+        run.due("would(0, 0)", 31).due("would(0, 1)", 4).due("serve(0)", 1).due("cartridgeOf(0, 3)", 0);
+        run.due("count(0)", 47);
     }
 
     private static void serveByWeight() {
@@ -361,7 +379,8 @@ public final class EdgesFilesTest {
             run.due("request(1, 0)", 1).due("serve(0)", 1).due("request(2, 0)", 1).due("count(1)", 6);
             // At the wall 6 already: lift 1, then a weighing ahead of each turn, mount 3.
             run.due("would(0, 3)", 0).due("would(0, 1)", each[1]).due("would(0, 0)", 1 + each[1] + each[2] + 3);
-            run.due("serve(0)", 1).due("count(0)", 7 + 4 + each[1] + each[2]).due("count(10)", 1 + each[1]).due("count(1)", 2);
+            run.due("serve(0)", 1).due("count(0)", 7 + 4 + each[1] + each[2]).due("count(10)", 1 + each[1]);
+            run.due("count(1)", 2);
         }
     }
 
@@ -371,14 +390,17 @@ public final class EdgesFilesTest {
         for (int waiting = 2; waiting <= 11; waiting++) {
             run.due("request(" + (waiting % 2 + 2) + ", 0)", waiting);
         }
-        run.due("request(1, 0)", 12).due("serve(3)", 10).due("count(8)", 2).due("count(9)", 10).due("cartridgeOf(2, 6)", 10);
-        run.due("requestOf(0, 0)", 0).due("requestOf(1, 0)", 1).due("serve(0)", 1).due("serve(0)", 1).due("count(9)", 12);
+        run.due("request(1, 0)", 12).due("serve(3)", 10).due("count(8)", 2).due("count(9)", 10);
+        run.due("cartridgeOf(2, 6)", 10);
+        run.due("requestOf(0, 0)", 0).due("requestOf(1, 0)", 1).due("serve(0)", 1).due("serve(0)", 1);
+        run.due("count(9)", 12);
         run.error("serve(0)", Run.NOT_POSSIBLE);
     }
 
     private static void serveIsOneChange() {
         Run run = bothFull(5, 1, 20, "promise 12: serving is one change").due("serve(0)", 1).due("count(14)", 4);
-        run.due("undo()", 3).due("count(0)", 16).due("count(11)", 0).due("count(12)", 1).due("count(8)", 1).due("undo()", 2);
+        run.due("undo()", 3).due("count(0)", 16).due("count(11)", 0).due("count(12)", 1).due("count(8)", 1);
+        run.due("undo()", 2);
         run.due("count(8)", 0).due("undo()", 1).due("count(12)", Run.NOT_FOUND);
     }
 

@@ -39,7 +39,8 @@ public final class EdgesLookingTest {
         for (int what = 0; what <= 6; what++) {
             run.range("cartridgeOf(#, " + what + ")", 0, 1);
         }
-        run.due("cartridgeOf(0, 0)", 1).due("cartridgeOf(1, 0)", 20).due("undo()", 1).error("cartridgeOf(1, 0)", Run.INVALID);
+        run.due("cartridgeOf(0, 0)", 1).due("cartridgeOf(1, 0)", 20).due("undo()", 1);
+        run.error("cartridgeOf(1, 0)", Run.INVALID);
         Run full = new Run("promise 13: the last cartridge that there can be");
         for (int cartridge = 0; cartridge < 30; cartridge++) {
             full.due("bring(3, " + cartridge % 8 + ", " + cartridge / 8 + ")", cartridge);
@@ -110,7 +111,8 @@ public final class EdgesLookingTest {
     }
 
     private static void cartridgeOfRequests() {
-        Run run = two("promise 13: 5: how many requests wait for these").due("request(7, 0)", 1).due("cartridgeOf(0, 5)", 0);
+        Run run = two("promise 13: 5: how many requests wait for these").due("request(7, 0)", 1);
+        run.due("cartridgeOf(0, 5)", 0);
         run.due("hold(0, 7)", -1).due("cartridgeOf(0, 5)", 1);
         for (int waiting = 2; waiting <= 12; waiting++) {
             run.due("request(7, 0)", waiting).due("cartridgeOf(0, 5)", waiting).due("cartridgeOf(1, 5)", 0);
@@ -120,9 +122,11 @@ public final class EdgesLookingTest {
     }
 
     private static void cartridgeOfServed() {
-        Run run = two("promise 13: 6: how many requests were served by it so far").due("hold(0, 7)", -1).due("hold(1, 8)", -1);
+        Run run = two("promise 13: 6: how many requests were served by it so far").due("hold(0, 7)", -1);
+        run.due("hold(1, 8)", -1);
         run.due("request(7, 0)", 1).due("request(7, 0)", 2).due("serve(0)", 2).due("cartridgeOf(0, 6)", 2);
-        run.due("request(7, 0)", 1).due("request(8, 0)", 2).due("cartridgeOf(0, 6)", 2).due("take(0)", 0).due("mount(0)", 1);
+        run.due("request(7, 0)", 1).due("request(8, 0)", 2).due("cartridgeOf(0, 6)", 2).due("take(0)", 0);
+        run.due("mount(0)", 1);
         run.due("cartridgeOf(0, 6)", 3).due("cartridgeOf(1, 6)", 0).due("serve(0)", 1).due("cartridgeOf(1, 6)", 1);
         run.due("hold(1, 7)", 0).due("cartridgeOf(0, 6)", 3).due("cartridgeOf(1, 6)", 1).due("count(9)", 4);
     }
@@ -146,7 +150,8 @@ public final class EdgesLookingTest {
     private static void shelfOfShelf() {
         Run run = two("promise 14: shelf: 0 to 3").due("bring(3, 1, 0)", 2).due("bring(3, 6, 3)", 3);
         run.range("shelfOf(0, #)", 0, 3).range("shelfOf(7, #)", 0, 3).range("shelfOf(1, #)", 0, 3);
-        run.due("shelfOf(0, 3)", Run.NOT_FOUND).due("shelfOf(1, 0)", 2).due("shelfOf(7, 0)", Run.NOT_FOUND).due("shelfOf(6, 3)", 3);
+        run.due("shelfOf(0, 3)", Run.NOT_FOUND).due("shelfOf(1, 0)", 2).due("shelfOf(7, 0)", Run.NOT_FOUND);
+        run.due("shelfOf(6, 3)", 3);
     }
 
     private static void shelfOfEmpty() {
@@ -158,23 +163,28 @@ public final class EdgesLookingTest {
 
     private static void shelfOfErrorsInOrder() {
         Run run = new Run("promise 14: INVALID_ARGUMENT rather than NOT_FOUND");
-        run.error("shelfOf(8, 0)", Run.INVALID).error("shelfOf(0, 4)", Run.INVALID).error("shelfOf(-1, -1)", Run.INVALID);
+        run.error("shelfOf(8, 0)", Run.INVALID).error("shelfOf(0, 4)", Run.INVALID);
+        run.error("shelfOf(-1, -1)", Run.INVALID);
     }
 
     private static void holderFile() {
-        Run run = two("promise 15: file: 0 to 59").due("hold(1, 0)", -1).due("hold(0, 59)", -1).range("holder(#)", 0, 59);
-        run.error("holder(0)", 1).error("holder(59)", 0).error("holder(1)", Run.NOT_FOUND).error("holder(58)", Run.NOT_FOUND);
+        Run run = two("promise 15: file: 0 to 59").due("hold(1, 0)", -1).due("hold(0, 59)", -1);
+        run.range("holder(#)", 0, 59);
+        run.error("holder(0)", 1).error("holder(59)", 0).error("holder(1)", Run.NOT_FOUND);
+        run.error("holder(58)", Run.NOT_FOUND);
     }
 
     private static void holderNone() {
-        Run run = two("promise 15: NOT_FOUND if none does").each("holder(#)", 0, 59, Run.NOT_FOUND).due("hold(0, 5)", -1);
+        Run run = two("promise 15: NOT_FOUND if none does").each("holder(#)", 0, 59, Run.NOT_FOUND);
+        run.due("hold(0, 5)", -1);
         run.due("holder(5)", 0).due("undo()", 2).error("holder(5)", Run.NOT_FOUND).error("holder(60)", Run.INVALID);
     }
 
     private static void holderWhereverItIs() {
         Run run = two("promise 15: the cartridge that holds a file, wherever it is").due("hold(0, 5)", -1);
         run.due("hold(1, 6)", -1).due("lift(0)", 0).due("holder(5)", 0).due("send(1, -1, -1)", 1).due("holder(6)", 1);
-        run.due("weigh()", 1).due("turn(2)", 2).due("mount(0)", 0).due("holder(5)", 0).due("hold(0, 6)", 1).due("holder(6)", 0);
+        run.due("weigh()", 1).due("turn(2)", 2).due("mount(0)", 0).due("holder(5)", 0).due("hold(0, 6)", 1);
+        run.due("holder(6)", 0);
     }
 
     private static Run threeRequests(String name) {
@@ -216,7 +226,8 @@ public final class EdgesLookingTest {
 
     private static void requestOfErrorsInOrder() {
         Run run = new Run("promise 16: INVALID_ARGUMENT rather than NOT_FOUND");
-        run.error("requestOf(0, 3)", Run.INVALID).error("requestOf(0, -1)", Run.INVALID).error("requestOf(-1, 0)", Run.INVALID);
+        run.error("requestOf(0, 3)", Run.INVALID).error("requestOf(0, -1)", Run.INVALID);
+        run.error("requestOf(-1, 0)", Run.INVALID);
         run.error("requestOf(12, 3)", Run.INVALID);
     }
 }

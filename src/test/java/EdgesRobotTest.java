@@ -87,7 +87,8 @@ public final class EdgesRobotTest {
 
     private static void liftTakesOneTick() {
         Run run = fourAt(0, "promise 4: it takes 1 tick");
-        run.due("lift(0)", 0).due("count(0)", 1).due("lift(1)", 1).due("count(0)", 2).due("lift(2)", 2).due("count(0)", 3);
+        run.due("lift(0)", 0).due("count(0)", 1).due("lift(1)", 1).due("count(0)", 2).due("lift(2)", 2);
+        run.due("count(0)", 3);
         run.due("lift(3)", Run.LIMIT).due("lift(0)", Run.NOT_POSSIBLE).due("lift(4)", Run.INVALID).due("count(0)", 3);
     }
 
@@ -145,7 +146,8 @@ public final class EdgesRobotTest {
         Run run = new Run("promise 6: the weight of the pile, one to three cartridges");
         run.due("bring(20, 0, 0)", 0).due("bring(20, 0, 1)", 1).due("bring(20, 0, 2)", 2).due("bring(1, 0, 3)", 3);
         run.due("lift(3)", 3).due("weigh()", 1).due("lay(3)", 3).due("lift(0)", 0).due("weigh()", 20).due("lift(1)", 1);
-        run.due("weigh()", 40).due("lift(2)", 2).due("weigh()", 60).due("count(3)", 60).due("lay(1)", 2).due("weigh()", 40);
+        run.due("weigh()", 40).due("lift(2)", 2).due("weigh()", 60).due("count(3)", 60).due("lay(1)", 2);
+        run.due("weigh()", 40);
     }
 
     private static void weighAlsoIfWeighed() {
@@ -169,7 +171,8 @@ public final class EdgesRobotTest {
     private static void weighedStays() {
         Run run = fourAt(0, "it is weighed from then on").due("weigh()", 0);
         run.due("bring(5, 1, 1)", 4).due("send(4, -1, -1)", 1).due("send(4, 3, 1)", 0).due("hold(4, 4)", -1);
-        run.due("request(4, 4)", 1).due("would(0, 4)", 4).due("wayTo(3)", 4).due("wholeBatch(0, 1)", 1).due("count(4)", 1);
+        run.due("request(4, 4)", 1).due("would(0, 4)", 4).due("wayTo(3)", 4).due("wholeBatch(0, 1)", 1);
+        run.due("count(4)", 1);
         run.error("lay(0)", Run.NOT_POSSIBLE).error("turn(5)", Run.INVALID).error("take(0)", Run.NOT_POSSIBLE);
         run.error("mount(1)", Run.NOT_POSSIBLE).due("play()", 0).due("count(4)", 1).due("turn(4)", 4);
         run.due("undo()", 3).due("count(4)", 1).due("undo()", 2).due("count(4)", 1).due("turn(1)", 1);
@@ -177,9 +180,12 @@ public final class EdgesRobotTest {
 
     private static void turnWalls() {
         Run run = new Run("promise 7: walls: 1 to 4: to the right; -1 to -4: to the left").due("weigh()", 0);
-        run.range("turn(#)", -4, 4).error("turn(0)", Run.INVALID).error("turn(-5)", Run.INVALID).error("turn(5)", Run.INVALID);
-        run.due("turn(4)", 4).due("weigh()", 0).due("turn(-4)", 0).due("weigh()", 0).due("turn(1)", 1).due("weigh()", 0);
-        run.due("turn(-1)", 0).due("weigh()", 0).due("turn(3)", 3).due("weigh()", 0).due("turn(-3)", 0).due("count(10)", 6);
+        run.range("turn(#)", -4, 4).error("turn(0)", Run.INVALID).error("turn(-5)", Run.INVALID);
+        run.error("turn(5)", Run.INVALID);
+        run.due("turn(4)", 4).due("weigh()", 0).due("turn(-4)", 0).due("weigh()", 0).due("turn(1)", 1);
+        run.due("weigh()", 0);
+        run.due("turn(-1)", 0).due("weigh()", 0).due("turn(3)", 3).due("weigh()", 0).due("turn(-3)", 0);
+        run.due("count(10)", 6);
     }
 
     private static void turnAround() {
@@ -191,7 +197,8 @@ public final class EdgesRobotTest {
                     if (first != 0) {
                         run.due("turn(" + first + ")", from).due("weigh()", 0);
                     }
-                    run.due("turn(" + walls + ")", Math.floorMod(from + walls, 8)).due("count(1)", Math.floorMod(from + walls, 8));
+                    run.due("turn(" + walls + ")", Math.floorMod(from + walls, 8));
+                    run.due("count(1)", Math.floorMod(from + walls, 8));
                 }
             }
         }
@@ -229,7 +236,8 @@ public final class EdgesRobotTest {
     private static void turnUpToTwenty() {
         for (int weight : new int[] {11, 12, 19, 20}) {
             Run run = pile(weight, "promise 7: up to 20 by 2");
-            run.error("turn(3)", Run.NOT_POSSIBLE).error("turn(-3)", Run.NOT_POSSIBLE).error("turn(4)", Run.NOT_POSSIBLE);
+            run.error("turn(3)", Run.NOT_POSSIBLE).error("turn(-3)", Run.NOT_POSSIBLE);
+            run.error("turn(4)", Run.NOT_POSSIBLE);
             run.error("turn(-4)", Run.NOT_POSSIBLE).due("turn(2)", 2).due("weigh()", weight).due("turn(-2)", 0);
             run.due("weigh()", weight).due("turn(1)", 1).due("weigh()", weight).due("turn(-1)", 0);
         }
@@ -238,7 +246,8 @@ public final class EdgesRobotTest {
     private static void turnAboveTwenty() {
         for (int weight : new int[] {21, 22, 30, 40, 41, 60}) {
             Run run = pile(weight, "promise 7: above that by 1");
-            run.error("turn(2)", Run.NOT_POSSIBLE).error("turn(-2)", Run.NOT_POSSIBLE).error("turn(3)", Run.NOT_POSSIBLE);
+            run.error("turn(2)", Run.NOT_POSSIBLE).error("turn(-2)", Run.NOT_POSSIBLE);
+            run.error("turn(3)", Run.NOT_POSSIBLE);
             run.error("turn(4)", Run.NOT_POSSIBLE).error("turn(-4)", Run.NOT_POSSIBLE);
             run.due("turn(1)", 1).due("weigh()", weight).due("turn(-1)", 0);
         }
@@ -291,7 +300,8 @@ public final class EdgesRobotTest {
 
     private static void mountDriveNotEmpty() {
         Run run = fourAt(2, "promise 8: NOT_POSSIBLE if the drive is not empty").due("weigh()", 0).due("turn(2)", 2);
-        run.due("lift(0)", 0).due("lift(1)", 1).due("lift(2)", 2).due("mount(0)", 0).error("mount(0)", Run.NOT_POSSIBLE);
+        run.due("lift(0)", 0).due("lift(1)", 1).due("lift(2)", 2).due("mount(0)", 0);
+        run.error("mount(0)", Run.NOT_POSSIBLE);
         run.due("weigh()", 6).due("turn(4)", 6).due("mount(1)", 0).error("mount(1)", Run.NOT_POSSIBLE);
         run.due("take(1)", 1).due("mount(1)", 0).error("mount(1)", Run.NOT_POSSIBLE).due("count(11)", 2);
     }
@@ -320,20 +330,23 @@ public final class EdgesRobotTest {
 
     private static void mountTopOfThePile() {
         Run run = fourAt(2, "promise 8: mounts the top of the pile").due("weigh()", 0).due("turn(2)", 2);
-        run.due("lift(3)", 3).due("lift(1)", 1).due("lift(2)", 2).due("mount(0)", 0).due("count(11)", 2).due("count(2)", 2);
+        run.due("lift(3)", 3).due("lift(1)", 1).due("lift(2)", 2).due("mount(0)", 0).due("count(11)", 2);
+        run.due("count(2)", 2);
         run.told("cartridgeOf(2, ", 3, 1, 2, 0).told("cartridgeOf(1, ", 3, 0, 1, 1).told("cartridgeOf(3, ", 3, 0, 1, 0);
         run.due("take(0)", 2).due("lay(2)", 2).due("mount(0)", 0).due("count(11)", 1).due("count(3)", 3);
     }
 
     private static void mountTakesThreeTicks() {
         Run run = fourAt(2, "promise 8: it takes 3 ticks").due("weigh()", 0).due("turn(2)", 2).due("lift(0)", 0);
-        run.due("count(0)", 4).due("mount(0)", 0).due("count(0)", 7).due("mount(0)", Run.NOT_POSSIBLE).due("count(0)", 7);
+        run.due("count(0)", 4).due("mount(0)", 0).due("count(0)", 7).due("mount(0)", Run.NOT_POSSIBLE);
+        run.due("count(0)", 7);
     }
 
     private static void mountServesNoRequest() {
         Run run = fourAt(2, "promise 8: how many requests are served by it, none").due("hold(1, 5)", -1);
         run.due("request(5, 0)", 1).due("request(6, 0)", 2).due("weigh()", 0).due("turn(2)", 2).due("lift(0)", 0);
-        run.due("mount(0)", 0).due("count(8)", 2).due("count(9)", 0).due("cartridgeOf(0, 6)", 0).due("requestOf(0, 0)", 5);
+        run.due("mount(0)", 0).due("count(8)", 2).due("count(9)", 0).due("cartridgeOf(0, 6)", 0);
+        run.due("requestOf(0, 0)", 5);
         run.due("take(0)", 0).due("hold(0, 5)", 1).due("count(8)", 2).due("mount(0)", 1).due("count(8)", 1);
         run.due("requestOf(0, 0)", 6).due("count(9)", 1);
     }
@@ -348,7 +361,8 @@ public final class EdgesRobotTest {
         }
         run.due("weigh()", 0).due("turn(2)", 2).due("lift(0)", 0);
         Run some = run.again("promise 8: they wait no more, others do").due("hold(1, 2)", 0);
-        run.due("mount(0)", 12).due("count(8)", 0).due("count(9)", 12).due("cartridgeOf(0, 6)", 12).due("cartridgeOf(0, 5)", 0);
+        run.due("mount(0)", 12).due("count(8)", 0).due("count(9)", 12).due("cartridgeOf(0, 6)", 12);
+        run.due("cartridgeOf(0, 5)", 0);
         run.error("requestOf(0, 0)", Run.NOT_FOUND).due("request(0, 0)", 1).due("take(0)", 0).due("mount(0)", 1);
         some.due("mount(0)", 9).due("count(8)", 3).due("count(9)", 9).told("requestOf(0, ", 2, 2, 0);
         some.told("requestOf(1, ", 2, 6, 0).told("requestOf(2, ", 2, 0, 0).error("requestOf(3, 0)", Run.NOT_FOUND);
@@ -357,7 +371,8 @@ public final class EdgesRobotTest {
 
     private static void mountErrorsInOrder() {
         Run run = wear(6, "promise 8: INVALID_ARGUMENT rather than NOT_POSSIBLE");
-        run.error("mount(-1)", Run.INVALID).error("mount(2)", Run.INVALID).due("lay(0)", 0).error("mount(2)", Run.INVALID);
+        run.error("mount(-1)", Run.INVALID).error("mount(2)", Run.INVALID).due("lay(0)", 0);
+        run.error("mount(2)", Run.INVALID);
         run.due("weigh()", 0).due("turn(1)", 3).error("mount(-1)", Run.INVALID).error("mount(6)", Run.INVALID);
     }
 
@@ -370,7 +385,8 @@ public final class EdgesRobotTest {
 
     private static void takeAtItsWall() {
         Run run = fourAt(2, "promise 9: NOT_POSSIBLE if the mast does not look at its wall").due("weigh()", 0);
-        run.due("turn(2)", 2).due("lift(0)", 0).due("lift(1)", 1).due("mount(0)", 0).due("weigh()", 3).due("turn(4)", 6);
+        run.due("turn(2)", 2).due("lift(0)", 0).due("lift(1)", 1).due("mount(0)", 0).due("weigh()", 3);
+        run.due("turn(4)", 6);
         run.due("mount(1)", 0);
         for (int step = 0; step < 8; step++) {
             int wall = (6 + step) % 8;
@@ -398,7 +414,8 @@ public final class EdgesRobotTest {
     }
 
     private static void takePileOfThree() {
-        Run run = fullPile("promise 9: LIMIT_REACHED if the pile has 3 cartridges").due("count(2)", 2).due("take(0)", 0);
+        Run run = fullPile("promise 9: LIMIT_REACHED if the pile has 3 cartridges").due("count(2)", 2);
+        run.due("take(0)", 0);
         run.told("cartridgeOf(0, ", 3, 1, 1, 2).due("mount(0)", 0).due("lift(3)", 3).error("take(0)", Run.LIMIT);
         run.due("weigh()", 9).error("take(0)", Run.LIMIT).due("lay(3)", 3).due("take(0)", 0).due("count(2)", 3);
     }

@@ -60,7 +60,8 @@ public final class EdgesTextsTest {
     private static void typeSixty() {
         Run run = new Run("promise 23: LIMIT_REACHED if it has 60 characters").typed(TEN_WEIGHINGS.substring(0, 58));
         run.due("type(104)", 59).due("type(59)", 60).error("type(59)", Run.LIMIT).error("type(32)", Run.LIMIT);
-        run.error("type(126)", Run.LIMIT).due("count(15)", 60).due("play()", 10).due("clearText()", 60).due("type(32)", 1);
+        run.error("type(126)", Run.LIMIT).due("count(15)", 60).due("play()", 10).due("clearText()", 60);
+        run.due("type(32)", 1);
     }
 
     private static void typeAppends() {
@@ -77,7 +78,8 @@ public final class EdgesTextsTest {
     }
 
     private static void clearLength() {
-        Run run = new Run("promise 24: returns the length it had").typed("weigh;").due("clearText()", 6).due("count(15)", 0);
+        Run run = new Run("promise 24: returns the length it had").typed("weigh;").due("clearText()", 6);
+        run.due("count(15)", 0);
         run.typed("x").due("clearText()", 1).typed("weigh;").due("count(15)", 6).due("fault(0)", NONE).due("play()", 1);
     }
 
@@ -102,12 +104,14 @@ public final class EdgesTextsTest {
 
     private static void faultNoneInAnEmptyText() {
         Run run = new Run("promise 25: NOT_FOUND, also if it is empty").error("fault(0)", NONE).error("fault(1)", NONE);
-        run.error("fault(2)", NONE).typed("x").due("fault(0)", 0).due("clearText()", 1).told("fault(", NONE, NONE, NONE);
+        run.error("fault(2)", NONE).typed("x").due("fault(0)", 0).due("clearText()", 1);
+        run.told("fault(", NONE, NONE, NONE);
     }
 
     /** All orders are possible on it, one by one: a cartridge on the pallet, one in the drive 0, at its wall, weighed. */
     private static Run ready(String name) {
-        Run run = new Run(name).due("bring(3, 2, 0)", 0).due("bring(3, 2, 1)", 1).due("bring(3, 2, 2)", 2).due("hold(2, 9)", -1);
+        Run run = new Run(name).due("bring(3, 2, 0)", 0).due("bring(3, 2, 1)", 1).due("bring(3, 2, 2)", 2);
+        run.due("hold(2, 9)", -1);
         return run.due("weigh()", 0).due("turn(2)", 2).due("lift(0)", 0).due("mount(0)", 0).due("lift(1)", 1).due("weigh()", 3);
     }
 
@@ -125,7 +129,8 @@ public final class EdgesTextsTest {
     }
 
     private static void faultOneDigit() {
-        Run run = ready("a number, which is one digit").noFault("lift 2;").fault("lift 02;", 0, 1, 6).fault("lift 22;", 0, 1, 6);
+        Run run = ready("a number, which is one digit").noFault("lift 2;").fault("lift 02;", 0, 1, 6);
+        run.fault("lift 22;", 0, 1, 6);
         run.fault("lift /;", 0, 1, 5).fault("lift :;", 0, 1, 5).fault("lift -2;", 0, 1, 5).fault("lift +2;", 0, 1, 5);
         run.fault("lift x;", 0, 1, 5).fault("lift ;", 0, 1, 5).fault("lift 2.;", 0, 1, 6).fault("lift 10;", 0, 1, 6);
         run.fault("lift 0;", 0, 3, NONE).fault("lift 9;", 0, 2, NONE);
@@ -133,7 +138,8 @@ public final class EdgesTextsTest {
 
     private static void faultFormOfEachOrder() {
         Run run = ready("\"lift\", \"lay\", \"weigh\", \"right\", \"left\", \"mount\", \"take\", \"serve\"");
-        run.noFault("lift 2;").noFault("lay 1;").noFault("weigh;").noFault("right 1;").noFault("left 1;").noFault("take 0;");
+        run.noFault("lift 2;").noFault("lay 1;").noFault("weigh;").noFault("right 1;").noFault("left 1;");
+        run.noFault("take 0;");
         run.noFault("right 4;mount 1;").noFault("left 4;mount 1;");
         ready("\"serve\" and a rule").due("lay(1)", 1).due("request(9, 0)", 1).noFault("serve 0;").noFault("serve 3;");
         for (String word : new String[] {"lift", "lay", "right", "left", "mount", "take", "serve"}) {
@@ -188,7 +194,8 @@ public final class EdgesTextsTest {
 
     private static void faultRangeAheadOfTheState() {
         Run run = new Run("2 ahead of 3").fault("lift 4;", 0, 2, NONE).fault("lay 4;", 0, 2, NONE);
-        run.fault("right 5;", 0, 2, NONE).fault("mount 2;", 0, 2, NONE).fault("take 2;", 0, 2, NONE).fault("serve 4;", 0, 2, NONE);
+        run.fault("right 5;", 0, 2, NONE).fault("mount 2;", 0, 2, NONE).fault("take 2;", 0, 2, NONE);
+        run.fault("serve 4;", 0, 2, NONE);
     }
 
     private static void faultNotPossibleOtherwise() {
@@ -198,16 +205,21 @@ public final class EdgesTextsTest {
         }
         run.noFault("lift 0;lift 1;lift 2;").fault("lift 0;lift 1;lift 2;lift 3;", 21, 3, NONE);
         run.noFault("lift 0;lift 1;lift 2;lay 2;lift 3;").fault("lift 0;lift 1;lift 2;lift 2;", 21, 3, NONE);
-        Run full = ready("3 for a drive whose cartridge has no place on the pile").due("lift(2)", 2).due("bring(3, 2, 0)", 3);
+        Run full = ready("3 for a drive whose cartridge has no place on the pile").due("lift(2)", 2);
+        full.due("bring(3, 2, 0)", 3);
         full.noFault("take 0;").fault("lift 0;take 0;", 7, 3, NONE);
     }
 
     private static void faultNotPossibleForEachOrder() {
-        Run run = ready("3 if it is not possible otherwise, each order").fault("lift 0;", 0, 3, NONE).fault("lay 2;", 0, 3, NONE);
-        run.fault("mount 0;", 0, 3, NONE).fault("mount 1;", 0, 3, NONE).fault("take 1;", 0, 3, NONE).fault("serve 0;", 0, 3, NONE);
-        run.fault("lay 0;right 1;", 6, 3, NONE).fault("lay 0;left 1;", 6, 3, NONE).due("hold(0, 8)", -1).due("request(8, 0)", 1);
+        Run run = ready("3 if it is not possible otherwise, each order").fault("lift 0;", 0, 3, NONE);
+        run.fault("lay 2;", 0, 3, NONE);
+        run.fault("mount 0;", 0, 3, NONE).fault("mount 1;", 0, 3, NONE).fault("take 1;", 0, 3, NONE);
+        run.fault("serve 0;", 0, 3, NONE);
+        run.fault("lay 0;right 1;", 6, 3, NONE).fault("lay 0;left 1;", 6, 3, NONE).due("hold(0, 8)", -1);
+        run.due("request(8, 0)", 1);
         run.fault("lay 1;serve 0;", 6, 3, NONE);
-        Run heavy = new Run("3 if it is too heavy for so many walls").due("bring(11, 0, 0)", 0).due("bring(10, 0, 1)", 1);
+        Run heavy = new Run("3 if it is too heavy for so many walls").due("bring(11, 0, 0)", 0);
+        heavy.due("bring(10, 0, 1)", 1);
         heavy.noFault("lift 0;weigh;right 2;").fault("lift 0;weigh;right 3;", 13, 3, NONE);
         heavy.fault("lift 0;weigh;left 3;", 13, 3, NONE).noFault("lift 1;weigh;left 4;");
         heavy.noFault("lift 0;lift 1;weigh;right 1;").fault("lift 0;lift 1;weigh;right 2;", 20, 3, NONE);
@@ -219,18 +231,23 @@ public final class EdgesTextsTest {
         run.fault("take 0;take 0;", 7, 3, NONE).noFault("take 0;mount 0;take 0;").fault("right 1;take 0;", 8, 3, NONE);
         run.due("fault(0)", NONE).due("count(2)", 1).due("count(11)", 0);
         Run worn = new Run("when those ahead of it are done, a cartridge that becomes worn").due("bring(3, 2, 0)", 0);
-        worn.due("weigh()", 0).due("turn(2)", 2).due("lift(0)", 0).due("mount(0)", 0).due("take(0)", 0).due("mount(0)", 0);
-        worn.due("take(0)", 0).due("mount(0)", 0).due("take(0)", 0).noFault("mount 0;take 0;mount 0;take 0;mount 0;take 0;");
+        worn.due("weigh()", 0).due("turn(2)", 2).due("lift(0)", 0).due("mount(0)", 0).due("take(0)", 0);
+        worn.due("mount(0)", 0);
+        worn.due("take(0)", 0).due("mount(0)", 0).due("take(0)", 0);
+        worn.noFault("mount 0;take 0;mount 0;take 0;mount 0;take 0;");
         worn.fault("mount 0;take 0;mount 0;take 0;mount 0;take 0;mount 0;", 45, 3, NONE);
-        Run serve = new Run("when those ahead of it are done, requests").due("bring(3, 2, 0)", 0).due("bring(3, 6, 0)", 1);
+        Run serve = new Run("when those ahead of it are done, requests").due("bring(3, 2, 0)", 0);
+        serve.due("bring(3, 6, 0)", 1);
         serve.due("hold(0, 0)", -1).due("hold(1, 1)", -1).due("request(0, 0)", 1).due("request(1, 9)", 2);
-        serve.noFault("serve 0;serve 0;").fault("serve 1;serve 2;serve 0;", 16, 3, NONE).fault("serve 0;lay 0;", 8, 3, NONE);
+        serve.noFault("serve 0;serve 0;").fault("serve 1;serve 2;serve 0;", 16, 3, NONE);
+        serve.fault("serve 0;lay 0;", 8, 3, NONE);
         serve.noFault("serve 0;take 0;lay 0;serve 1;take 1;lay 0;");
     }
 
     private static void faultOfTheFirstOrder() {
         Run run = ready("the first order that is not possible").fault("weigh;lift 9;x", 6, 2, NONE);
-        run.fault("weigh;x;lift 9;", 6, 1, 0).fault("weigh;lift 0;lift 9;", 6, 3, NONE).fault("lift 9;lift 0;", 0, 2, NONE);
+        run.fault("weigh;x;lift 9;", 6, 1, 0).fault("weigh;lift 0;lift 9;", 6, 3, NONE);
+        run.fault("lift 9;lift 0;", 0, 2, NONE);
         run.fault("lift 0;lift", 0, 3, NONE).fault("lift;lift 0;", 0, 1, 4);
     }
 
@@ -244,9 +261,16 @@ public final class EdgesTextsTest {
     private static void faultCauseNoneOfTheWords() {
         Run run = ready("the cause is 0 if its letters a to z are none of these words").fault("turn 1;", 0, 1, 0);
         run.fault("lif 1;", 0, 1, 0).fault("ift 1;", 0, 1, 0).fault("Lift 1;", 0, 1, 0).fault("LIFT 1;", 0, 1, 0);
-        run.fault("lIft 1;", 0, 1, 0).fault("lifT 1;", 0, 1, 0).fault("1;", 0, 1, 0).fault("weig;", 0, 1, 0).fault("~", 0, 1, 0);
+        run.fault("lIft 1;", 0, 1, 0).fault("lifT 1;", 0, 1, 0).fault("1;", 0, 1, 0).fault("weig;", 0, 1, 0);
+        run.fault("~", 0, 1, 0);
         run.fault("ser ve 1;", 0, 1, 0).fault("tak e 0;", 0, 1, 0).fault("lya 0;", 0, 1, 0).fault("lat 0;", 0, 1, 0);
         run.fault("lef 1;", 0, 1, 0).fault("moun 1;", 0, 1, 0).fault("righ 1;", 0, 1, 0).fault("la 1;", 0, 1, 0);
+        for (String word : new String[] {"lift", "lay", "weigh", "right", "left", "mount", "take", "serve"}) {
+            for (int i = 0; i < word.length(); i++) {
+                run.fault(word.substring(0, i) + 'q' + word.substring(i + 1) + " 1;", 0, 1, 0);
+                run.fault(word.substring(0, i) + word.substring(i + 1) + " 1;", 0, 1, 0);
+            }
+        }
     }
 
     private static void faultCauseAtTheEndOfTheText() {
@@ -261,13 +285,15 @@ public final class EdgesTextsTest {
 
     private static void faultCauseBeginningWithAWord() {
         Run run = ready("letters, as many as follow one another from its beginning on").fault("lifts 1;", 0, 1, 0);
-        run.fault("liftlift 1;", 0, 1, 0).fault("layer 0;", 0, 1, 0).fault("weighed;", 0, 1, 0).fault("rights 1;", 0, 1, 0);
+        run.fault("liftlift 1;", 0, 1, 0).fault("layer 0;", 0, 1, 0).fault("weighed;", 0, 1, 0);
+        run.fault("rights 1;", 0, 1, 0);
         run.fault("lefty", 0, 1, 0).fault("mounts 0;", 0, 1, 0).fault("taken 0;", 0, 1, 0).fault("server 0;", 0, 1, 0);
         run.fault("weighweigh;", 0, 1, 0).fault("liftx", 0, 1, 0);
     }
 
     private static void faultCauseLettersAToZ() {
-        Run run = ready("letters a to z").fault("lifta 1;", 0, 1, 0).fault("liftz 1;", 0, 1, 0).fault("lift` 1;", 0, 1, 4);
+        Run run = ready("letters a to z").fault("lifta 1;", 0, 1, 0).fault("liftz 1;", 0, 1, 0);
+        run.fault("lift` 1;", 0, 1, 4);
         run.fault("lift{ 1;", 0, 1, 4).fault("liftA 1;", 0, 1, 4).fault("liftZ 1;", 0, 1, 4).fault("lift@", 0, 1, 4);
         run.fault("lift[", 0, 1, 4).fault("lift0 1;", 0, 1, 4).fault("weigh`", 0, 1, 5).fault("weigh{", 0, 1, 5);
         run.fault("weigha", 0, 1, 0).fault("weighz", 0, 1, 0);
@@ -293,7 +319,8 @@ public final class EdgesTextsTest {
 
     private static void faultCauseWithinItsOrder() {
         Run run = ready("a character, from 0, of the order, not of the text").fault("weigh;lift;", 6, 1, 4);
-        run.fault("lift 2;weigh 0;", 7, 1, 5).fault("lift 2;lay 2;weigh;lay 0x", 19, 1, 5).fault("weigh;weigh ", 6, 1, 5);
+        run.fault("lift 2;weigh 0;", 7, 1, 5).fault("lift 2;lay 2;weigh;lay 0x", 19, 1, 5);
+        run.fault("weigh;weigh ", 6, 1, 5);
     }
 
     private static void faultCauseOnlyWithReason1() {
@@ -320,13 +347,15 @@ public final class EdgesTextsTest {
 
     private static void faultErrorsInOrder() {
         Run run = new Run("promise 25: INVALID_ARGUMENT rather than NOT_FOUND").error("fault(3)", Run.INVALID);
-        run.error("fault(-1)", Run.INVALID).typed("lift 9;").error("fault(3)", Run.INVALID).error("fault(-1)", Run.INVALID);
+        run.error("fault(-1)", Run.INVALID).typed("lift 9;").error("fault(3)", Run.INVALID);
+        run.error("fault(-1)", Run.INVALID);
     }
 
     private static void playNoOrders() {
         Run run = new Run("promise 26: one change, also if there are none").due("play()", 0).due("count(14)", 1);
         run.due("play()", 0).due("count(14)", 2).due("count(0)", 0).due("undo()", 1).due("undo()", 0);
-        run.error("undo()", Run.NOT_POSSIBLE).due("bring(3, 0, 0)", 0).due("play()", 0).due("undo()", 1).due("count(5)", 1);
+        run.error("undo()", Run.NOT_POSSIBLE).due("bring(3, 0, 0)", 0).due("play()", 0).due("undo()", 1);
+        run.due("count(5)", 1);
         for (int times = 2; times <= 6; times++) {
             run.due("play()", 0).due("count(14)", Math.min(4, times));
         }
@@ -334,7 +363,8 @@ public final class EdgesTextsTest {
 
     private static void playTenOrders() {
         Run run = new Run("promise 26: returns how many there are in it, 10").typed(TEN_WEIGHINGS).due("play()", 10);
-        run.due("count(0)", 10).due("count(4)", 1).due("count(15)", 60).due("count(14)", 1).due("play()", 10).due("count(0)", 20);
+        run.due("count(0)", 10).due("count(4)", 1).due("count(15)", 60).due("count(14)", 1).due("play()", 10);
+        run.due("count(0)", 20);
         for (int orders = 1; orders <= 9; orders++) {
             run.due("clearText()", orders == 1 ? 60 : 6 * orders - 6).typed(TEN_WEIGHINGS.substring(0, 6 * orders));
             run.due("play()", orders);
@@ -345,14 +375,17 @@ public final class EdgesTextsTest {
         Run run = ready("promise 26: they are one change").typed("lift 2;lay 0;lay 2;serve 0;").due("request(9, 0)", 1);
         // lift 1, lay 1, lay 1; lift 1, weigh 1, 4 walls 4, mount 3
         run.due("count(14)", 4).due("count(0)", 9).due("play()", 4).due("count(0)", 9 + 3 + 9).due("count(12)", 2);
-        run.due("undo()", 3).due("count(0)", 9).due("count(2)", 1).due("shelfOf(2, 2)", 2).due("count(8)", 1).due("undo()", 2);
+        run.due("undo()", 3).due("count(0)", 9).due("count(2)", 1).due("shelfOf(2, 2)", 2).due("count(8)", 1);
+        run.due("undo()", 2);
         run.due("count(8)", 0);
     }
 
     private static void playTextStays() {
         Run run = new Run("promise 26: all orders of the text, which stays").typed("weigh;right 1;").due("play()", 2);
-        run.due("count(15)", 14).due("play()", 2).due("count(1)", 2).due("undo()", 1).due("count(15)", 14).due("count(1)", 1);
-        run.due("play()", 2).due("count(1)", 2).typed("weigh;left 3;").due("play()", 4).due("count(1)", 0).due("count(15)", 27);
+        run.due("count(15)", 14).due("play()", 2).due("count(1)", 2).due("undo()", 1).due("count(15)", 14);
+        run.due("count(1)", 1);
+        run.due("play()", 2).due("count(1)", 2).typed("weigh;left 3;").due("play()", 4).due("count(1)", 0);
+        run.due("count(15)", 27);
     }
 
     private static void playHasAFault() {
@@ -369,15 +402,19 @@ public final class EdgesTextsTest {
     }
 
     private static void playStopsAtNothing() {
-        Run run = new Run("promise 26: a fault of the last order changes nothing").due("bring(3, 0, 0)", 0).due("weigh()", 0);
-        run.typed("lift 0;weigh;left 2;mount 1;take 1;lay 0;lay 0;").error("play()", Run.NOT_POSSIBLE).due("fault(0)", 41);
+        Run run = new Run("promise 26: a fault of the last order changes nothing").due("bring(3, 0, 0)", 0);
+        run.due("weigh()", 0);
+        run.typed("lift 0;weigh;left 2;mount 1;take 1;lay 0;lay 0;").error("play()", Run.NOT_POSSIBLE);
+        run.due("fault(0)", 41);
         run.due("count(14)", 2).due("count(4)", 1).due("count(0)", 1).due("shelfOf(0, 0)", 0);
     }
 
     private static void playAsTheCalls() {
         String[] calls = {"take(0)", "lay(0)", "lay(1)", "serve(1)", "weigh()", "turn(1)", "weigh()", "turn(-4)"};
-        Run played = ready("promise 26: does all orders").due("request(9, 0)", 1).typed("take 0;lay 0;lay 1;serve 1;weigh;right 1;");
-        Run called = ready("promise 26: as the calls do them").due("request(9, 0)", 1).typed("take 0;lay 0;lay 1;serve 1;weigh;right 1;");
+        Run played = ready("promise 26: does all orders").due("request(9, 0)", 1);
+        played.typed("take 0;lay 0;lay 1;serve 1;weigh;right 1;");
+        Run called = ready("promise 26: as the calls do them").due("request(9, 0)", 1);
+        called.typed("take 0;lay 0;lay 1;serve 1;weigh;right 1;");
         int[] wants = {0, 0, 1, 1, 0, 3, 0, 7};
         for (int i = 0; i < 6; i++) {
             called.due(calls[i], wants[i]);

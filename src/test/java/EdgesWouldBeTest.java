@@ -93,7 +93,8 @@ public final class EdgesWouldBeTest {
         }
         run.due("lay(0)", 2).due("request(2, 9)", 1).due("request(2, 9)", 2).due("request(1, 0)", 3);
         run.each("nextBy(#)", 0, 3, 0).due("lift(0)", 2).due("undo()", 3).due("hold(2, 9)", -1);
-        Run worn = run.again("promise 17: worn").due("lift(0)", 2).due("mount(0)", 2).due("take(0)", 2).due("lay(0)", 2);
+        Run worn = run.again("promise 17: worn").due("lift(0)", 2).due("mount(0)", 2).due("take(0)", 2);
+        worn.due("lay(0)", 2);
         worn.due("request(2, 9)", 2).due("request(2, 9)", 3).each("nextBy(#)", 0, 3, 0).due("requestOf(0, 0)", 1);
         worn.due("send(1, -1, -1)", 1).each("nextBy(#)", 0, 3, Run.NOT_FOUND);
     }
@@ -109,7 +110,8 @@ public final class EdgesWouldBeTest {
     }
 
     private static void nextGreatestRank() {
-        Run run = walls("promise 17: rule 1: the one with the greatest rank").due("request(1, 0)", 1).due("nextBy(1)", 0);
+        Run run = walls("promise 17: rule 1: the one with the greatest rank").due("request(1, 0)", 1);
+        run.due("nextBy(1)", 0);
         for (int rank = 1; rank <= 9; rank++) {
             run.due("request(" + rank % 8 + ", " + rank + ")", rank + 1).due("nextBy(1)", rank).due("nextBy(0)", 0);
         }
@@ -118,9 +120,12 @@ public final class EdgesWouldBeTest {
 
     private static void nextNearestWall() {
         Run run = requests(walls("promise 17: rule 2: the wall nearest to that at which the mast looks"), 4, 3, 2, 1, 0);
-        run.due("nextBy(2)", 4).due("weigh()", 0).due("turn(1)", 1).due("nextBy(2)", 3).due("weigh()", 0).due("turn(1)", 2);
-        run.due("nextBy(2)", 2).due("weigh()", 0).due("turn(1)", 3).due("nextBy(2)", 1).due("weigh()", 0).due("turn(1)", 4);
-        run.due("nextBy(2)", 0).due("weigh()", 0).due("turn(2)", 6).due("nextBy(2)", 0).due("weigh()", 0).due("turn(1)", 7);
+        run.due("nextBy(2)", 4).due("weigh()", 0).due("turn(1)", 1).due("nextBy(2)", 3).due("weigh()", 0);
+        run.due("turn(1)", 2);
+        run.due("nextBy(2)", 2).due("weigh()", 0).due("turn(1)", 3).due("nextBy(2)", 1).due("weigh()", 0);
+        run.due("turn(1)", 4);
+        run.due("nextBy(2)", 0).due("weigh()", 0).due("turn(2)", 6).due("nextBy(2)", 0).due("weigh()", 0);
+        run.due("turn(1)", 7);
         run.due("nextBy(2)", 4);
     }
 
@@ -146,9 +151,12 @@ public final class EdgesWouldBeTest {
 
     private static void nextMostRequests() {
         Run run = walls("promise 17: rule 3: whose cartridge holds files of most requests that wait");
-        run.due("hold(5, 50)", -1).due("hold(5, 51)", -1).due("request(1, 9)", 1).due("request(5, 0)", 2).due("nextBy(3)", 0);
-        run.due("request(50, 0)", 3).due("nextBy(3)", 1).due("request(1, 0)", 4).due("nextBy(3)", 0).due("request(51, 0)", 5);
-        run.due("nextBy(3)", 1).due("request(1, 0)", 6).due("nextBy(3)", 0).due("request(52, 0)", 7).due("nextBy(3)", 0);
+        run.due("hold(5, 50)", -1).due("hold(5, 51)", -1).due("request(1, 9)", 1).due("request(5, 0)", 2);
+        run.due("nextBy(3)", 0);
+        run.due("request(50, 0)", 3).due("nextBy(3)", 1).due("request(1, 0)", 4).due("nextBy(3)", 0);
+        run.due("request(51, 0)", 5);
+        run.due("nextBy(3)", 1).due("request(1, 0)", 6).due("nextBy(3)", 0).due("request(52, 0)", 7);
+        run.due("nextBy(3)", 0);
         run.due("hold(5, 52)", -1).due("nextBy(3)", 1);
     }
 
@@ -183,7 +191,8 @@ public final class EdgesWouldBeTest {
     private static void wouldTicksAndTurns() {
         Run run = new Run("promise 18: 0: the ticks that it takes; 1: how many times the mast turns");
         run.due("bring(3, 2, 0)", 0).due("bring(3, 6, 0)", 1).due("bring(20, 7, 0)", 2).due("hold(0, 0)", -1);
-        run.due("hold(1, 1)", -1).due("hold(2, 2)", -1).due("request(0, 0)", 1).due("serve(0)", 1).due("request(1, 0)", 1);
+        run.due("hold(1, 1)", -1).due("hold(2, 2)", -1).due("request(0, 0)", 1).due("serve(0)", 1);
+        run.due("request(1, 0)", 1);
         run.due("serve(0)", 1).due("request(2, 0)", 1).due("count(0)", 16).due("count(10)", 2);
         // weigh 1, 4 walls 4, take 2, lay 1; weigh 1, 3 walls 3, lift 1; weigh 1, 2 walls 6, weigh 1, 1 wall 3, mount 3
         run.told("would(0, ", 27, 4, 1, 0, 2).due("serve(0)", 1).due("count(0)", 16 + 27).due("count(10)", 2 + 4);
@@ -205,7 +214,8 @@ public final class EdgesWouldBeTest {
     }
 
     private static void wouldDrive() {
-        Run run = requests(walls("promise 18: 3: the drive"), 4, 7).due("would(0, 3)", 0).due("weigh()", 0).due("turn(-1)", 7);
+        Run run = requests(walls("promise 18: 3: the drive"), 4, 7).due("would(0, 3)", 0).due("weigh()", 0);
+        run.due("turn(-1)", 7);
         run.due("would(2, 3)", 1).due("serve(2)", 1).due("count(12)", 7).due("would(2, 3)", 0).due("serve(2)", 1);
         run.due("request(1, 0)", 1).due("would(0, 3)", 1);
     }
@@ -215,7 +225,8 @@ public final class EdgesWouldBeTest {
         // weigh 1, 4 walls 4, lift 1, weigh 1, 2 walls 2, mount 3
         run.due("request(1, 0)", 3).due("request(4, 0)", 4).told("would(0, ", 12, 2, 2, 0, 4);
         // weigh 1, 3 walls 3, lift 1, weigh 1, 1 wall 1, mount 3; weigh 1, 1 wall 1, lift 1, weigh 1, 1 wall 1, mount 3
-        run.told("would(1, ", 10, 2, 1, 0, 3).told("would(2, ", 8, 2, 1, 0, 1).due("would(3, 4)", 4).due("would(3, 3)", 0);
+        run.told("would(1, ", 10, 2, 1, 0, 3).told("would(2, ", 8, 2, 1, 0, 1).due("would(3, 4)", 4);
+        run.due("would(3, 3)", 0);
         Run zero = requests(walls("promise 18: 4: the cartridge 0"), 0).told("would(0, ", 7, 1, 1, 0, 0);
         zero.due("serve(0)", 1).due("count(11)", 0);
     }
@@ -252,7 +263,8 @@ public final class EdgesWouldBeTest {
     }
 
     private static void wayToHere() {
-        Run run = new Run("promise 19: as long as the mast does not look at it").due("bring(20, 0, 0)", 0).due("lift(0)", 0);
+        Run run = new Run("promise 19: as long as the mast does not look at it").due("bring(20, 0, 0)", 0);
+        run.due("lift(0)", 0);
         run.error("wayTo(0)", 0).due("weigh()", 20).error("wayTo(0)", 0).due("turn(2)", 2).error("wayTo(2)", 0);
     }
 
@@ -287,7 +299,8 @@ public final class EdgesWouldBeTest {
     }
 
     private static void wayToWeighedOrNot() {
-        Run run = new Run("promise 19: it weighs (also if the pallet is weighed)").error("wayTo(3)", 4).due("weigh()", 0);
+        Run run = new Run("promise 19: it weighs (also if the pallet is weighed)").error("wayTo(3)", 4);
+        run.due("weigh()", 0);
         run.error("wayTo(3)", 4).due("count(4)", 1).due("count(0)", 1).due("count(1)", 0).due("count(10)", 0);
     }
 
@@ -300,7 +313,8 @@ public final class EdgesWouldBeTest {
     }
 
     private static void batchWhat() {
-        Run run = requests(walls("promise 20: what: 0 to 2"), 5).range("wholeBatch(0, #)", 0, 2).range("wholeBatch(3, #)", 0, 2);
+        Run run = requests(walls("promise 20: what: 0 to 2"), 5).range("wholeBatch(0, #)", 0, 2);
+        run.range("wholeBatch(3, #)", 0, 2);
         run.told("wholeBatch(0, ", 10, 1, 0, Run.INVALID).told("wholeBatch(3, ", 10, 1, 0, Run.INVALID);
         Run empty = new Run("promise 20: an argument out of range, nothing to serve").range("wholeBatch(#, 0)", 0, 3);
         empty.range("wholeBatch(0, #)", 0, 2).error("wholeBatch(4, 3)", Run.INVALID);
@@ -382,7 +396,8 @@ public final class EdgesWouldBeTest {
     }
 
     private static void batchBecomesWorn() {
-        Run run = walls("promise 20: a cartridge that becomes worn by it").due("weigh()", 0).due("turn(2)", 2).due("lift(0)", 2);
+        Run run = walls("promise 20: a cartridge that becomes worn by it").due("weigh()", 0).due("turn(2)", 2);
+        run.due("lift(0)", 2);
         for (int wear = 1; wear <= 5; wear++) {
             run.due("mount(0)", 0).due("take(0)", 2);
         }

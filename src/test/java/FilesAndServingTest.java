@@ -40,7 +40,8 @@ public final class FilesAndServingTest {
         }
         run.error("hold(0, 4)", Run.LIMIT).error("hold(0, 5)", Run.LIMIT).error("hold(0, 60)", Run.INVALID);
         run.due("hold(0, 3)", 0).due("send(0, -1, -1)", 1);
-        run.error("hold(0, 3)", Run.NOT_POSSIBLE).error("hold(0, 5)", Run.NOT_POSSIBLE).error("hold(0, 60)", Run.INVALID);
+        run.error("hold(0, 3)", Run.NOT_POSSIBLE).error("hold(0, 5)", Run.NOT_POSSIBLE);
+        run.error("hold(0, 60)", Run.INVALID);
         run.due("hold(1, 3)", 0).due("cartridgeOf(0, 4)", 3);
         run.due("send(0, 0, 2)", 0).due("hold(0, 5)", -1).due("count(13)", 6);
     }
