@@ -110,6 +110,11 @@ public final class EdgesRobotTest {
         run.error("lay(0)", Run.NOT_POSSIBLE).error("lay(2)", Run.NOT_POSSIBLE).due("lift(2)", 0).due("lay(2)", 0);
         run.error("lay(0)", Run.NOT_POSSIBLE).due("lift(2)", 0).due("weigh()", 3).due("turn(2)", 2).due("mount(0)", 0);
         run.error("lay(0)", Run.NOT_POSSIBLE);
+        Run full = new Run("promise 5: NOT_POSSIBLE if the pile is empty, whatever is elsewhere");
+        for (int cartridge = 0; cartridge < 30; cartridge++) {
+            full.due("bring(3, " + (7 - cartridge / 4) + ", " + (3 - cartridge % 4) + ")", cartridge);
+        }
+        full.error("lay(0)", Run.NOT_POSSIBLE).error("lay(1)", Run.NOT_POSSIBLE).error("lay(3)", Run.NOT_POSSIBLE);
     }
 
     private static void layShelfNotEmpty() {
@@ -296,6 +301,10 @@ public final class EdgesRobotTest {
         Run run = fourAt(2, "promise 8: NOT_POSSIBLE if the pile is empty").due("weigh()", 0).due("turn(2)", 2);
         run.error("mount(0)", Run.NOT_POSSIBLE).due("lift(0)", 0).due("lay(0)", 0).error("mount(0)", Run.NOT_POSSIBLE);
         run.due("weigh()", 0).due("turn(4)", 6).error("mount(1)", Run.NOT_POSSIBLE);
+        run.due("bring(3, 7, 3)", 4).error("mount(1)", Run.NOT_POSSIBLE).due("weigh()", 0).due("turn(-4)", 2);
+        run.error("mount(0)", Run.NOT_POSSIBLE).due("lift(1)", 1).due("mount(0)", 0).due("weigh()", 0);
+        run.due("turn(4)", 6);
+        run.error("mount(1)", Run.NOT_POSSIBLE).due("count(2)", 0);
     }
 
     private static void mountDriveNotEmpty() {

@@ -35,6 +35,7 @@ public final class EdgesTextsTest {
         faultCauseLettersAToZ();
         faultCauseBreaksOff();
         faultCauseEndsTooEarly();
+        faultNothingOfAnEarlierText();
         faultCauseWithinItsOrder();
         faultCauseOnlyWithReason1();
         faultAtTheEndOfAFullText();
@@ -315,6 +316,23 @@ public final class EdgesTextsTest {
                 run.fault("weigh;weigh;" + order.substring(0, length), 12, 1, length);
             }
         }
+    }
+
+    private static void faultNothingOfAnEarlierText() {
+        for (String order : new String[] {"lift 2;", "lay 0;", "right 1;", "left 1;", "take 0;", "weigh;"}) {
+            int letters = order.indexOf(' ') < 0 ? 5 : order.indexOf(' ');
+            for (int length = 1; length < order.length(); length++) {
+                Run run = ready("promise 24: empties the text, nothing of an earlier one counts").typed(order + "weigh;");
+                run.due("fault(0)", NONE).due("clearText()", order.length() + 6).typed(order.substring(0, length));
+                run.told("fault(", 0, 1, length < letters ? 0 : length).error("play()", Run.NOT_POSSIBLE);
+            }
+            Run run = ready("promise 24: no orders of an earlier text").typed(order + order);
+            run.due("clearText()", order.length() * 2);
+            run.due("play()", 0).typed(order).due("play()", 1);
+        }
+        Run full = new Run("promise 24: nothing of an earlier text of 60 characters").typed(TEN_WEIGHINGS);
+        full.due("clearText()", 60).told("fault(", NONE, NONE, NONE).due("play()", 0).typed("weigh;").due("play()", 1);
+        full.typed("weigh").told("fault(", 6, 1, 5).due("clearText()", 11).typed("weig").told("fault(", 0, 1, 0);
     }
 
     private static void faultCauseWithinItsOrder() {
