@@ -280,18 +280,34 @@ public final class EdgesCountAndUndoTest {
         run.error("undo()", Run.NOT_POSSIBLE);
     }
 
-    /** Each call that is a change, on the same state; it is one change, and all of it goes back. */
+    /**
+     * Each call that is a change, on the same state, with 0 to 4 states in the history; it is one change,
+     * and all of it goes back.
+     */
     private static void undoEachKindOfChange() {
         String[] calls = {"bring(9, 7, 3)", "send(1, -1, -1)", "send(3, 4, 0)", "lift(1)", "lay(2)", "weigh()", "turn(-1)",
             "mount(0)", "hold(1, 50)", "hold(1, 0)", "hold(0, 0)", "request(1, 1)", "play()"};
         int[] wants = {4, 2, 0, 2, 0, 3, 1, 2, -1, 0, 0, 4, 2};
-        for (int i = 0; i < calls.length; i++) {
-            backAgain(ready(calls[i]), calls[i], wants[i]);
+        for (int states = 0; states <= 4; states++) {
+            for (int i = 0; i < calls.length; i++) {
+                backAgain(left(states, ready(calls[i])), calls[i], wants[i]);
+            }
+            backAgain(left(states, ready("take(0)").due("mount(0)", 2)), "take(0)", 0);
+            backAgain(left(states, ready("serve(0)").due("mount(0)", 2)), "serve(0)", 1);
+            backAgain(left(states, ready("play of nothing").due("clearText()", 12)), "play()", 0);
         }
-        backAgain(ready("take(0)").due("mount(0)", 2), "take(0)", 0);
-        backAgain(ready("serve(0)").due("mount(0)", 2), "serve(0)", 1);
-        backAgain(ready("play of nothing").due("clearText()", 12), "play()", 0);
         backAgain(ready("weigh again").due("undo()", 3), "weigh()", 3);
+    }
+
+    /** The state as it is, with so many states in its history, of the four that there are. */
+    private static Run left(int states, Run run) {
+        for (int more = states; more < 4; more++) {
+            run.due("hold(0, 2)", 0);
+        }
+        for (int left = 3; left >= states; left--) {
+            run.due("undo()", left);
+        }
+        return run;
     }
 
     private static Run ready(String name) {

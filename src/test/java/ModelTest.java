@@ -5,10 +5,15 @@ import java.util.ArrayList;
 import java.util.List;
 import java.util.Random;
 
-/** All promises: random runs of at most 512 calls, each answer beside that of the plain library. */
+/**
+ * All promises: random runs of at most 512 calls, each answer beside that of the plain library. Every
+ * other run is a shorter one that ends with a look at everything.
+ */
 public final class ModelTest {
     private static final int RUNS = 3000;
     private static final int CALLS = 512;
+    /** So many calls leave room for four of undo, and for a look at everything. */
+    private static final int CALLS_AHEAD_OF_A_LOOK = 105;
     private static final int[] ODD = {Integer.MIN_VALUE, Integer.MIN_VALUE + 1, -6, -2, -1, 60, 61, 127, 1 << 29,
         Integer.MAX_VALUE - 1, Integer.MAX_VALUE};
     private static final String[] LOOKS = {"cartridgeOf", "shelfOf", "holder", "requestOf", "nextBy", "would", "wayTo",
@@ -21,6 +26,7 @@ public final class ModelTest {
     private final PlainLibrary plain = new PlainLibrary();
     private final List<String> calls = new ArrayList<>();
     private boolean broken = false;
+    private int most;
 
     private ModelTest(long seed) {
         random = new Random(seed);
@@ -28,7 +34,10 @@ public final class ModelTest {
 
     public static void main(String[] args) {
         for (int run = 0; run < RUNS && wrong < 5; run++) {
-            new ModelTest(run).run(run % 6);
+            new ModelTest(run).run(run % 6, CALLS);
+            ModelTest looking = new ModelTest(RUNS + run);
+            looking.run(run % 6, CALLS_AHEAD_OF_A_LOOK);
+            looking.lookAtEverything(run % 5);
         }
         System.out.println(wrong == 0 ? "all answers are as due" : wrong + " runs are not as due");
         if (wrong != 0) {
@@ -36,9 +45,41 @@ public final class ModelTest {
         }
     }
 
-    private void run(int kind) {
-        while (calls.size() < CALLS && !broken) {
+    private void run(int kind, int length) {
+        most = length;
+        while (calls.size() < most && !broken) {
             step(kind);
+        }
+    }
+
+    private void lookAtEverything(int undone) {
+        most = CALLS;
+        for (int i = 0; i < undone; i++) {
+            both("undo");
+        }
+        looks("count", 16);
+        looks("cartridgeOf", Math.min(cartridges(), 30), 7);
+        looks("shelfOf", 8, 4);
+        looks("holder", 60);
+        looks("requestOf", 12, 3);
+        looks("nextBy", 4);
+        looks("would", 4, 5);
+        looks("wayTo", 8);
+        looks("wholeBatch", 4, 3);
+        looks("fault", 3);
+    }
+
+    private void looks(String name, int numbers) {
+        for (int number = 0; number < numbers; number++) {
+            both(name, number);
+        }
+    }
+
+    private void looks(String name, int numbers, int others) {
+        for (int number = 0; number < numbers; number++) {
+            for (int other = 0; other < others; other++) {
+                both(name, number, other);
+            }
         }
     }
 
@@ -226,7 +267,7 @@ public final class ModelTest {
     }
 
     private void both(String name, int... arguments) {
-        if (broken || calls.size() >= CALLS) {
+        if (broken || calls.size() >= most) {
             return;
         }
         StringBuilder call = new StringBuilder(name).append('(');
